@@ -1,0 +1,77 @@
+import java.util.concurrent.Callable;
+
+/** Counts the checks of one test, and prints each one that fails with its promise and its line. */
+final class Checks {
+    static final Class<? extends Exception> BOUNDS = IndexOutOfBoundsException.class;
+    static final Class<? extends Exception> ARGUMENT = IllegalArgumentException.class;
+    static final Class<? extends Exception> STATE = IllegalStateException.class;
+    static final Class<? extends Exception> UNSUPPORTED = UnsupportedOperationException.class;
+    static final Class<? extends Exception> NO_ELEMENT = java.util.NoSuchElementException.class;
+    static final Class<? extends Exception> ARITHMETIC = ArithmeticException.class;
+
+    private static int passed;
+    private static int failed;
+    private static int promise;
+
+    private Checks() {
+    }
+
+    static void promise(int number) {
+        promise = number;
+    }
+
+    static void is(long want, long got) {
+        check(want == got, String.valueOf(want), String.valueOf(got));
+    }
+
+    static void is(char want, char got) {
+        check(want == got, String.valueOf(want), String.valueOf(got));
+    }
+
+    static void is(boolean want, boolean got) {
+        check(want == got, String.valueOf(want), String.valueOf(got));
+    }
+
+    static void is(double want, double got) {
+        check(want == got, String.valueOf(want), String.valueOf(got));
+    }
+
+    static void fails(Class<? extends Exception> want, Callable<?> call) {
+        String got;
+        boolean isWanted = false;
+        try {
+            got = String.valueOf(call.call());
+        } catch (Exception e) {
+            // The very class: an ArrayIndexOutOfBoundsException of the machine is not what a promise names.
+            isWanted = e.getClass() == want;
+            got = e.getClass().getName();
+        }
+        check(isWanted, want.getName(), got);
+    }
+
+    static void check(boolean isRight, String want, String got) {
+        if (isRight) {
+            passed++;
+            return;
+        }
+        failed++;
+        System.out.println("promise " + promise + ", " + callingLine() + ": due is " + want + ", got " + got);
+    }
+
+    /** Ends the test's program, with exit code 1 if a check failed. */
+    static void end() {
+        System.out.println(passed + " checks hold, " + failed + " fail");
+        if (failed != 0 || passed == 0) {
+            System.exit(1);
+        }
+    }
+
+    private static String callingLine() {
+        for (StackTraceElement frame : new Throwable().getStackTrace()) {
+            if (!frame.getClassName().equals("Checks")) {
+                return frame.getFileName() + ":" + frame.getLineNumber();
+            }
+        }
+        return "?";
+    }
+}
