@@ -33,7 +33,6 @@ public final class FormRiver {
     private static final int EVERY_QUESTION = -1;
 
     private static final char PLAIN = ' ';
-    private static final char GOT_ANSWERS = ' ';
 
     private static final char DRAFTED = 'd';
     private static final char AT_DESKS = 's';
@@ -1042,11 +1041,11 @@ public final class FormRiver {
         }
 
         void valueIsSum() {
-            int sum = 0;
+            hasValue = true;
+            value = 0;
             for (int i = 0; i < count; i++) {
-                sum += given[i];
+                value += given[i];
             }
-            valueIs(sum);
         }
 
         void lacks(char reason, int version) {
@@ -1065,22 +1064,33 @@ public final class FormRiver {
             stepsToRoot = cause.stepsToRoot + 1;
         }
 
-        /** Gets the mapped answers from a place of the version before; returns why not, if it can't get them. */
-        char takeFrom(Slot from) {
+        /** Gets the mapped answers from a place of the version before, all of them or none. */
+        void takeFrom(Slot source, int version) {
             count = 0;
-            int answers = from.question.isComputed() ? 1 : from.count;
+            if (!source.hasValue) {
+                lacksBecauseOf(source, 'f');
+                return;
+            }
+            boolean isFromComputed = source.question.isComputed();
+            int answers = isFromComputed ? 1 : source.count;
             if (answers > question.most) {
-                return 'm';
+                lacks('m', version);
+                return;
             }
             for (int i = 0; i < answers; i++) {
-                int answer = question.mapped(from.question.isComputed() ? from.value : from.given[i]);
+                int answer = question.mapped(isFromComputed ? source.value : source.given[i]);
                 if (!question.allows(answer)) {
                     count = 0;
-                    return 'r';
+                    lacks('r', version);
+                    return;
                 }
                 put(answer);
             }
-            return GOT_ANSWERS;
+            if (isOpen) {
+                valueIsSum();
+            } else {
+                lacks('c', version);
+            }
         }
     }
 
@@ -1119,34 +1129,15 @@ public final class FormRiver {
         void carryFrom(Sheet before) {
             for (int i = 0; i < slots.size(); i++) {
                 Slot slot = slots.get(i);
+                int from = slot.question.mapFrom;
                 slot.isOpen = isOpen(slot.question);
                 if (slot.question.isComputed()) {
                     compute(slot);
+                } else if (from < 0 || from >= before.slots.size()) {
+                    slot.lacks('k', versionNumber);
                 } else {
-                    carryInto(slot, before);
+                    slot.takeFrom(before.slots.get(from), versionNumber);
                 }
-            }
-        }
-
-        private void carryInto(Slot slot, Sheet before) {
-            int from = slot.question.mapFrom;
-            slot.count = 0;
-            if (from < 0 || from >= before.slots.size()) {
-                slot.lacks('k', versionNumber);
-                return;
-            }
-            Slot source = before.slots.get(from);
-            if (!source.hasValue) {
-                slot.lacksBecauseOf(source, 'f');
-                return;
-            }
-            char loss = slot.takeFrom(source);
-            if (loss != GOT_ANSWERS) {
-                slot.lacks(loss, versionNumber);
-            } else if (!slot.isOpen) {
-                slot.lacks('c', versionNumber);
-            } else {
-                slot.valueIsSum();
             }
         }
 
