@@ -9,6 +9,8 @@ public final class CarryingTest {
         carriedReasons();
         rootsOverVersions();
         goneAnswers();
+        conditionsAfterCarrying();
+        oneAfterTheOther();
         Checks.end();
     }
 
@@ -43,6 +45,7 @@ public final class CarryingTest {
         // Each answer is rounded towards 0: 3 and -1 by 2; -3 and 1 by -2.
         Checks.is(2, mapped(answered(7, -3), '/', 2, -999, 999, 4).carried(0, 0));
         Checks.is(-2, mapped(answered(7, -3), '/', -2, -999, 999, 4).carried(0, 0));
+        Checks.is(-4, mapped(answered(7, -3), '/', -1, -999, 999, 4).carried(0, 0));
         FormRiver r = mapped(answered(-7), '/', 2, -999, 999, 4);
         Checks.is(-3, r.carried(0, 0));
         // Three versions: (5 * 3 - 4) / 2.
@@ -166,6 +169,8 @@ public final class CarryingTest {
         r.answer(0, 0, 6);
         Checks.promise(32);
         Checks.is('n', r.reason(0, 1));
+        Checks.is('p', r.reason(0, 2));
+        Checks.is('p', r.reason(0, 3));
         r.answer(0, 1, 1);
         r.takeBack(0, 0);
         r.answer(0, 0, 5);
@@ -285,6 +290,70 @@ public final class CarryingTest {
         Checks.is('f', r.reason(0, 0));
         Checks.is('n', r.root(0, 0));
         Checks.is(0, r.rootVersion(0, 0));
+    }
+
+    /** A version whose question 1 gets the answers of the question 0 and is asked if the own one is at least 5. */
+    private static FormRiver withCondition(FormRiver r) {
+        r.addVersion(0);
+        r.addQuestion(0, 1, -999, 999, 4);
+        r.setMap(0, 0, 0, '=', 0);
+        r.addQuestion(0, 0, 0, 999, 4);
+        r.setMap(0, 1, 0, '=', 0);
+        r.setCondition(0, 1, 0, '>', 5);
+        r.addComputed(0, 2, '+', 0, 1);
+        r.publish(0);
+        return r;
+    }
+
+    private static void conditionsAfterCarrying() {
+        FormRiver r = withCondition(answered(5));
+        Checks.promise(31);
+        Checks.is(5, r.carried(0, 1));
+        Checks.is(10, r.carried(0, 2));
+        FormRiver s = withCondition(answered(4));
+        Checks.promise(32);
+        Checks.is('c', s.reason(0, 1));
+        Checks.is('p', s.reason(0, 2));
+        Checks.promise(33);
+        Checks.is('c', s.root(0, 2));
+    }
+
+    /** What was carried for one submission leaves no trace in what is carried for the next one. */
+    private static void oneAfterTheOther() {
+        FormRiver r = answered(6, -1);
+        r.start(0, 0);
+        r.answer(1, 0, 4);
+        r.start(0, 0);
+        r.start(0, 0);
+        r.answer(3, 0, -2);
+        withCondition(r);
+        for (int times = 0; times < 2; times++) {
+            Checks.promise(32);
+            Checks.is('r', r.reason(0, 1));
+            Checks.is('c', r.reason(1, 1));
+            Checks.is('f', r.reason(2, 1));
+            Checks.is('r', r.reason(3, 1));
+            Checks.promise(33);
+            Checks.is('r', r.root(0, 1));
+            Checks.is('c', r.root(1, 1));
+            Checks.is('n', r.root(2, 1));
+            Checks.is('r', r.root(3, 1));
+            Checks.promise(34);
+            Checks.is(0, r.rootVersion(2, 1));
+            Checks.is(1, r.rootVersion(3, 1));
+            Checks.promise(35);
+            Checks.is(0, r.causes(0, 1));
+            Checks.is(1, r.causes(2, 1));
+            Checks.is(0, r.causes(3, 1));
+            Checks.is(2, r.causes(2, 2));
+            Checks.is(1, r.causes(1, 2));
+            r.answer(0, 0, 9);
+            r.takeBack(0, 0);
+            Checks.promise(31);
+            Checks.is(4, r.carried(1, 0));
+            Checks.fails(Checks.NO_ELEMENT, () -> r.carried(1, 1));
+            Checks.fails(Checks.NO_ELEMENT, () -> r.carried(2, 0));
+        }
     }
 
     private CarryingTest() {

@@ -42,11 +42,16 @@ final class Checks {
         try {
             got = String.valueOf(call.call());
         } catch (Exception e) {
-            // The very class: an ArrayIndexOutOfBoundsException of the machine is not what a promise names.
-            isWanted = e.getClass() == want;
-            got = e.getClass().getName();
+            // The very class, thrown by the program itself: neither the machine nor the library may throw in it.
+            isWanted = e.getClass() == want && isThrownByProgram(e);
+            got = e.getClass().getName() + (isThrownByProgram(e) ? "" : ", not thrown by the program");
         }
         check(isWanted, want.getName(), got);
+    }
+
+    static boolean isThrownByProgram(Throwable e) {
+        StackTraceElement[] frames = e.getStackTrace();
+        return frames.length > 0 && frames[0].getClassName().startsWith("FormRiver");
     }
 
     static void check(boolean isRight, String want, String got) {

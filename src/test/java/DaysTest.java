@@ -6,6 +6,7 @@ public final class DaysTest {
         patience();
         patienceOverStages();
         patienceAfterSendingBack();
+        patienceOfALaterStage();
         patienceBeforeKeeping();
         orderOfPatience();
         holding();
@@ -141,6 +142,25 @@ public final class DaysTest {
         Checks.is(false, r.waits(0, 1));
         r.pass(1);
         Checks.is('a', r.state(0));
+    }
+
+    /** The stage 0 is behind the submission, though the value of its leg's question is another one. */
+    private static void patienceOfALaterStage() {
+        FormRiver r = form();
+        r.addLeg(0, 0, 0, 0, 0, 0);
+        r.addLeg(0, 1, 1, -1, 0, 3);
+        r.addLeg(0, 2, 2, -1, 0, 0);
+        r.publish(0);
+        submitted(r, 0, 1);
+        r.approve(0, 0);
+        r.sendBack(0, 1, 1);
+        r.takeBack(0, 0);
+        r.answer(0, 0, 2);
+        r.submit(0);
+        r.pass(3);
+        Checks.is(2, r.stage(0));
+        Checks.is(true, r.waits(0, 2));
+        Checks.is(false, r.waits(0, 0));
     }
 
     /** First legs are approved, so that a replaced submission is not gone on the same day. */

@@ -113,7 +113,7 @@ public final class FormsTest {
         Checks.promise(5);
         FormRiver r = new FormRiver();
         r.addForm();
-        Checks.fails(Checks.NO_ELEMENT, () -> r.addComputed(0, 1, '+', 0, 0));
+        Checks.fails(Checks.NO_ELEMENT, () -> r.addComputed(0, 0, '+', 0, 0));
         r.addQuestion(0, 0, -999, 999, 4);
         r.addQuestion(0, 1, -999, 999, 4);
         Checks.fails(Checks.BOUNDS, () -> r.addComputed(1, 99, '?', 7, 7));
@@ -127,7 +127,8 @@ public final class FormsTest {
         Checks.fails(Checks.NO_ELEMENT, () -> r.addComputed(0, 2, '+', 0, 2));
         Checks.fails(Checks.NO_ELEMENT, () -> r.addComputed(0, 2, '+', -1, 0));
         Checks.fails(Checks.NO_ELEMENT, () -> r.addComputed(0, 2, '+', 0, -1));
-        Checks.is(2, r.addComputed(0, 2, '+', 0, 1));
+        // Meanings may be there twice until the draft is published.
+        Checks.is(2, r.addComputed(0, 15, '+', 0, 1));
         Checks.is(3, r.addComputed(0, 3, '-', 0, 1));
         Checks.is(4, r.addComputed(0, 4, '*', 0, 1));
         Checks.is(5, r.addComputed(0, 5, 'l', 0, 1));
@@ -349,6 +350,10 @@ public final class FormsTest {
         s.publish(0);
         Checks.fails(Checks.UNSUPPORTED, () -> s.publish(1));
         Checks.is(0, s.owner(1));
+        s.addForm();
+        s.addQuestion(2, 1, 0, 9, 1);
+        s.addQuestion(2, 9, 0, 9, 1);
+        Checks.fails(Checks.UNSUPPORTED, () -> s.publish(2));
     }
 
     private static void publishingChangesRecords() {
@@ -438,6 +443,8 @@ public final class FormsTest {
         FormRiver r = new FormRiver();
         Checks.fails(Checks.BOUNDS, () -> r.setSubstitute(-1, -1));
         Checks.fails(Checks.BOUNDS, () -> r.setSubstitute(6, 6));
+        Checks.fails(Checks.BOUNDS, () -> r.setSubstitute(6, 0));
+        Checks.fails(Checks.BOUNDS, () -> r.setSubstitute(-1, 0));
         Checks.fails(Checks.BOUNDS, () -> r.setSubstitute(0, 6));
         Checks.fails(Checks.BOUNDS, () -> r.setSubstitute(0, -2));
         Checks.fails(Checks.ARGUMENT, () -> r.setSubstitute(3, 3));

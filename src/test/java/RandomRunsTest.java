@@ -271,7 +271,8 @@ public final class RandomRunsTest {
         try {
             return method.invoke(object, arguments);
         } catch (InvocationTargetException e) {
-            return e.getCause().getClass();
+            boolean isSpoilt = object instanceof FormRiver && !Checks.isThrownByProgram(e.getCause());
+            return isSpoilt ? "not thrown by the program: " + e.getCause() : e.getCause().getClass();
         }
     }
 

@@ -288,6 +288,10 @@ public final class RoutesTest {
         // Two legs of each wait at the desk 0, but it is the submissions that are told.
         Checks.is(2, r.reject(1, 0));
         Checks.is('x', r.state(1));
+        FormRiver s = threeLegs();
+        submitted(s, 1, 20, 0);
+        submitted(s, 1, 20, 0);
+        Checks.is(1, s.reject(1, 0));
         Checks.is(false, r.waits(1, 0));
         Checks.is(false, r.waits(1, 1));
         Checks.is(0, r.reject(2, 1));
