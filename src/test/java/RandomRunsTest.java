@@ -1,10 +1,3 @@
-import java.lang.reflect.InvocationTargetException;
-import java.lang.reflect.Method;
-import java.lang.reflect.Modifier;
-import java.util.Arrays;
-import java.util.Map;
-import java.util.TreeMap;
-
 /** All promises: the same runs of calls on the program and on PlainRiver, with the same answers and exceptions. */
 public final class RandomRunsTest {
     private static final int RUNS = 160;
@@ -16,51 +9,36 @@ public final class RandomRunsTest {
             + " answer answer answer answer answer answer takeBack prefill submit submit submit submit approve approve"
             + " approve sendBack sendBack reject withdraw hold pass").split(" ");
 
-    private final Map<String, Method> ours = new TreeMap<>();
-    private final Map<String, Method> theirs = new TreeMap<>();
-    private final Map<String, Integer> answered = new TreeMap<>();
-    private final StringBuilder told = new StringBuilder();
     private long seed;
-    private FormRiver river;
+    private Pair pair;
     private PlainRiver plain;
 
     /** Takes the first run and the number of runs, if others than in .ci/run are wanted. */
-    public static void main(String[] args) throws ReflectiveOperationException {
+    public static void main(String[] args) {
         int first = args.length > 0 ? Integer.parseInt(args[0]) : 0;
         new RandomRunsTest().run(first, args.length > 1 ? Integer.parseInt(args[1]) : RUNS);
         Checks.end();
     }
 
-    private RandomRunsTest() throws ReflectiveOperationException {
-        for (Method method : FormRiver.class.getDeclaredMethods()) {
-            if (Modifier.isPublic(method.getModifiers())) {
-                ours.put(method.getName(), method);
-                theirs.put(method.getName(),
-                        PlainRiver.class.getMethod(method.getName(), method.getParameterTypes()));
-            }
-        }
-    }
-
-    private void run(int first, int runs) throws ReflectiveOperationException {
+    private void run(int first, int runs) {
         for (int run = first; run < first + runs; run++) {
             seed = run * 7919L + 1;
-            river = new FormRiver();
-            plain = new PlainRiver();
-            told.setLength(0);
+            pair = new Pair();
+            plain = pair.plain;
             if (!buildFirst() || !callAndLook()) {
-                System.out.println("run " + run + ":\n" + told);
+                System.out.println("run " + run + ":\n" + pair.told());
                 return;
             }
         }
-        System.out.println("answers: " + answered);
+        System.out.println("answers: " + Pair.ANSWERED);
         // Each method has to have answered, or the runs would tell nothing of it.
-        for (String name : ours.keySet()) {
-            Checks.check(answered.getOrDefault(name, 0) > 50, "answers of " + name, "" + answered.get(name));
+        for (String name : Pair.names()) {
+            Checks.check(Pair.ANSWERED.getOrDefault(name, 0) > 50, "answers of " + name, "" + Pair.ANSWERED.get(name));
         }
     }
 
     /** Most runs begin with a form that is published, so that they come to submissions. */
-    private boolean buildFirst() throws ReflectiveOperationException {
+    private boolean buildFirst() {
         if (next(10) == 0) {
             return true;
         }
@@ -74,7 +52,7 @@ public final class RandomRunsTest {
         return isSame & same("publish", 0);
     }
 
-    private boolean addQuestions(int form, int questions) throws ReflectiveOperationException {
+    private boolean addQuestions(int form, int questions) {
         boolean isSame = true;
         int firstMeaning = form * 5 + next(3);
         for (int question = 0; question < questions; question++) {
@@ -92,16 +70,16 @@ public final class RandomRunsTest {
         return isSame;
     }
 
-    private boolean callAndLook() throws ReflectiveOperationException {
+    private boolean callAndLook() {
         for (int step = 0; step < STEPS; step++) {
-            if (!step() || step % 40 == 0 && !lookAtAll()) {
+            if (!step() || step % 40 == 0 && !pair.lookAtAll()) {
                 return false;
             }
         }
-        return lookAtAll();
+        return pair.lookAtAll();
     }
 
-    private boolean step() throws ReflectiveOperationException {
+    private boolean step() {
         int kind = next(12);
         if (kind == 0) {
             return fill(submissionIn("dr"));
@@ -124,7 +102,7 @@ public final class RandomRunsTest {
     }
 
     /** Gives answers to most questions of a submission, and submits it. */
-    private boolean fill(int submission) throws ReflectiveOperationException {
+    private boolean fill(int submission) {
         boolean isSame = true;
         for (int question = 0; question < 8; question++) {
             for (int tries = next(12); tries > 0; tries--) {
@@ -137,13 +115,13 @@ public final class RandomRunsTest {
         return isSame & same("submit", submission);
     }
 
-    private boolean decide(int submission) throws ReflectiveOperationException {
+    private boolean decide(int submission) {
         int desk = deskOf(submission);
         return next(3) > 0 ? same("approve", submission, desk)
                 : same("sendBack", submission, desk, oneOf(1, 2, 3, 4, 5));
     }
 
-    private boolean revise(int submission) throws ReflectiveOperationException {
+    private boolean revise(int submission) {
         boolean isSame = true;
         for (int question = 0; question < 4; question++) {
             if (next(2) == 0) {
@@ -162,7 +140,7 @@ public final class RandomRunsTest {
         }
     }
 
-    private boolean addMappedVersion(int form) throws ReflectiveOperationException {
+    private boolean addMappedVersion(int form) {
         if (next(6) != 0) {
             return true;
         }
@@ -203,77 +181,8 @@ public final class RandomRunsTest {
         return desk();
     }
 
-    private boolean lookAtAll() throws ReflectiveOperationException {
-        boolean isSame = true;
-        for (String name : new String[] {"day", "acceptedShare"}) {
-            isSame &= same(name);
-        }
-        for (int form = -1; form < 4; form++) {
-            isSame &= same("present", form);
-        }
-        for (int meaning = -1; meaning < 17; meaning++) {
-            for (String name : new String[] {"owner", "total", "totalAnew", "counted", "meanValue"}) {
-                isSame &= same(name, meaning);
-            }
-            for (int person = -1; person < 7; person++) {
-                for (String name : new String[] {"record", "recordAnew", "source"}) {
-                    isSame &= same(name, person, meaning);
-                }
-            }
-        }
-        for (int number = -1; number < 7; number++) {
-            isSame &= same("isSound", number);
-            for (int rank = -1; rank < 6; rank++) {
-                isSame &= same("waitingAt", number, rank);
-            }
-        }
-        for (int submission = -1; submission < 25; submission++) {
-            isSame &= lookAt(submission);
-        }
-        return isSame;
-    }
-
-    private boolean lookAt(int submission) throws ReflectiveOperationException {
-        boolean isSame = true;
-        for (String name : new String[] {"state", "stage", "lastDay"}) {
-            isSame &= same(name, submission);
-        }
-        for (int desk = -1; desk < 7; desk++) {
-            isSame &= same("waits", submission, desk);
-        }
-        for (int question = -1; question < 9; question++) {
-            for (String name : new String[] {"isAsked", "value", "answers", "carried", "reason", "root",
-                "rootVersion", "causes"}) {
-                isSame &= same(name, submission, question);
-            }
-        }
-        return isSame;
-    }
-
-    private boolean same(String name, Object... arguments) throws ReflectiveOperationException {
-        Object want = outcome(theirs.get(name), plain, arguments);
-        Object got = outcome(ours.get(name), river, arguments);
-        boolean isSame = want.equals(got);
-        boolean isChange = Arrays.asList(CHANGES).contains(name);
-        if (isChange || !isSame) {
-            told.append(name).append(Arrays.toString(arguments)).append(" -> ").append(want);
-            told.append(isSame ? "\n" : ", but got " + got + "\n");
-        }
-        if (!(got instanceof Class)) {
-            answered.merge(name, 1, Integer::sum);
-        }
-        Checks.check(isSame, name + Arrays.toString(arguments) + ": " + want, String.valueOf(got));
-        return isSame;
-    }
-
-    private static Object outcome(Method method, Object object, Object[] arguments)
-            throws ReflectiveOperationException {
-        try {
-            return method.invoke(object, arguments);
-        } catch (InvocationTargetException e) {
-            boolean isSpoilt = object instanceof FormRiver && !Checks.isThrownByProgram(e.getCause());
-            return isSpoilt ? "not thrown by the program: " + e.getCause() : e.getCause().getClass();
-        }
+    private boolean same(String name, Object... arguments) {
+        return pair.same(name, arguments);
     }
 
     private Object[] argumentsOf(String name) {
