@@ -162,7 +162,15 @@ public final class FillBoundsTest {
             Checks.promise(22);
             t.outside(0, last, Twin.BOUNDS, submission -> r -> r.reject(submission, 0));
             Checks.promise(23);
-            t.outside(0, last, Twin.BOUNDS, submission -> r -> r.withdraw(submission)).goesOnAlike();
+            t.outside(0, last, Twin.BOUNDS, submission -> r -> r.withdraw(submission));
+            Checks.promise(24);
+            t.outside(0, last, Twin.BOUNDS, submission -> r -> r.state(submission));
+            Checks.promise(25);
+            t.outside(0, last, Twin.BOUNDS, submission -> r -> r.isAsked(submission, 0));
+            Checks.promise(26);
+            t.outside(0, last, Twin.BOUNDS, submission -> r -> r.value(submission, 9));
+            Checks.promise(27);
+            t.outside(0, last, Twin.BOUNDS, submission -> r -> r.answers(submission, 0)).goesOnAlike();
         }
     }
 

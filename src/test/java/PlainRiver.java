@@ -7,7 +7,7 @@ import java.util.TreeMap;
 
 /**
  * The document told a second time, as plainly as it goes: nothing that can be found from the submissions is kept,
- * values and reasons are asked for recursively. RandomRunsTest compares the program with it.
+ * values and reasons are asked for recursively. RandomRunsTest and CornersTest compare the program with it.
  */
 public final class PlainRiver {
     private static final class Q {

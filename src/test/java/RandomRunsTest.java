@@ -1,6 +1,6 @@
 /** All promises: the same runs of calls on the program and on PlainRiver, with the same answers and exceptions. */
 public final class RandomRunsTest {
-    private static final int RUNS = 160;
+    private static final int RUNS = 120;
     private static final int STEPS = 240;
 
     /** The methods that change something, the often called ones with more weight. */
